@@ -655,7 +655,7 @@ public final class CapTreeKernel {
 
     /**
      * Removes all marked capabilities, and those that are marked on the way because their table is
-     * destroyed. Every round but the last removes one at least, so that UNITS rounds are enough.
+     * destroyed. Every round but the last removes one at least, and there are at most UNITS.
      */
     private void removeDoomed() {
         boolean found = true;
@@ -689,12 +689,13 @@ public final class CapTreeKernel {
         if (thing instanceof Table table) {
             destroyTable(table);
         } else if (thing instanceof KernelThread thread) {
-            thread.leaveLine();
+            leaveLine(thread);
             threads[thread.at / THREAD_SIZE] = null;
         } else if (thing instanceof Gate gate) {
             stopAllAt(gate.waiting);
         } else if (thing instanceof Bell bell) {
-            destroyBell(bell);
+            stopAllAt(bell.waiting);
+            unbindAll(bell);
         } else if (thing instanceof Space space) {
             destroySpace(space);
         } else if (thing instanceof Leaf leaf) {
@@ -717,8 +718,7 @@ public final class CapTreeKernel {
         }
     }
 
-    private void destroyBell(Bell bell) {
-        stopAllAt(bell.waiting);
+    private void unbindAll(Bell bell) {
         for (int line = 0; line < INTERRUPT_LINES; line++) {
             if (boundBells[line] == bell) {
                 boundBells[line] = null;
@@ -783,21 +783,21 @@ public final class CapTreeKernel {
     }
 
     private void becomeReady(KernelThread t) {
-        t.leaveLine();
+        leaveLine(t);
         t.state = READY;
         t.slice = FULL_SLICE;
-        readyLines[t.priority].append(t);
+        joinLine(t, readyLines[t.priority]);
     }
 
     private static void becomeStopped(KernelThread t) {
-        t.leaveLine();
+        leaveLine(t);
         t.state = STOPPED;
     }
 
     private static void becomeWaiting(KernelThread t, int state, ThreadLine line) {
-        t.leaveLine();
+        leaveLine(t);
         t.state = state;
-        line.append(t);
+        joinLine(t, line);
     }
 
     private void changePriority(KernelThread t, int priority) {
@@ -806,9 +806,41 @@ public final class CapTreeKernel {
         }
         t.priority = priority;
         if (t.state == READY) {
-            t.leaveLine();
-            readyLines[priority].append(t);
+            leaveLine(t);
+            joinLine(t, readyLines[priority]);
         }
+    }
+
+    /** The thread must stand in no line. */
+    private static void joinLine(KernelThread t, ThreadLine line) {
+        if (line.last == null) {
+            line.first = t;
+        } else {
+            line.last.next = t;
+        }
+        line.last = t;
+        t.line = line;
+    }
+
+    private static void leaveLine(KernelThread t) {
+        ThreadLine line = t.line;
+        if (line == null) {
+            return;
+        }
+        KernelThread before = null;
+        for (KernelThread k = line.first; k != null && k != t; k = k.next) {
+            before = k;
+        }
+        if (before == null) {
+            line.first = t.next;
+        } else {
+            before.next = t.next;
+        }
+        if (line.last == t) {
+            line.last = before;
+        }
+        t.next = null;
+        t.line = null;
     }
 
     // ---- messages and signals ----
@@ -963,12 +995,6 @@ public final class CapTreeKernel {
             state = STOPPED;
         }
 
-        void leaveLine() {
-            if (line != null) {
-                line.takeOut(this);
-            }
-        }
-
         void hear(int number) {
             word = number;
             badge = 0;
@@ -1022,38 +1048,9 @@ public final class CapTreeKernel {
         }
     }
 
-    /** Threads in the order in which they came. */
+    /** Threads in the order in which they came; each knows the next. */
     private static final class ThreadLine {
         KernelThread first;
         KernelThread last;
-
-        void append(KernelThread t) {
-            if (last == null) {
-                first = t;
-            } else {
-                last.next = t;
-            }
-            last = t;
-            t.next = null;
-            t.line = this;
-        }
-
-        /** The thread must stand in this line. */
-        void takeOut(KernelThread t) {
-            KernelThread before = null;
-            for (KernelThread k = first; k != null && k != t; k = k.next) {
-                before = k;
-            }
-            if (before == null) {
-                first = t.next;
-            } else {
-                before.next = t.next;
-            }
-            if (last == t) {
-                last = before;
-            }
-            t.next = null;
-            t.line = null;
-        }
     }
 }

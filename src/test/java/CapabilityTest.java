@@ -271,6 +271,44 @@ public final class CapabilityTest {
             slot(0, 2, 4) = 0
             slot(0, 3, 4) = 0
             """);
+        s.run("nested tables go whatever their order in memory", """
+            # table 32 hangs in table 64, table 48 in table 32, a thread in table 48
+            retype(2, 1, 0, 4) = 0
+            retype(2, 1, 0, 5) = 0
+            retype(3, 1, 0, 6) = 0
+            retype(3, 2, 0, 97) = 0
+            move(5, 80) = 0
+            move(4, 112) = 0
+            slot(48, 1, 1) = 80
+            slot(32, 0, 1) = 48
+            slot(64, 0, 1) = 32
+            thread(80, 0) = 1
+            delete(112) = 0
+            slot(32, 0, 0) = -1
+            slot(48, 1, 0) = -1
+            thread(80, 0) = -1
+            slot(0, 2, 4) = 0
+            slot(0, 3, 4) = 1
+            """);
+        s.run("the neighbours of a destroyed table stay", """
+            retype(3, 1, 0, 4) = 0
+            retype(3, 1, 0, 5) = 0
+            retype(3, 1, 0, 6) = 0
+            copy(1, 95, 7, 0) = 0
+            copy(1, 96, 7, 0) = 0
+            copy(1, 111, 7, 0) = 0
+            copy(1, 112, 7, 0) = 0
+            slot(64, 15, 0) = 2
+            slot(80, 0, 0) = 2
+            slot(80, 15, 0) = 2
+            slot(96, 0, 0) = 2
+            delete(5) = 0
+            slot(64, 15, 0) = 2
+            slot(80, 0, 0) = -1
+            slot(80, 15, 0) = -1
+            slot(96, 0, 0) = 2
+            slot(0, 1, 4) = 2
+            """);
         s.run("the table of the current thread", """
             retype(3, 1, 0, 4) = 0
             copy(4, 5, 7, 0) = 0

@@ -116,6 +116,21 @@ public final class GateTest {
             thread(48, 2) = 2
             """);
         s.run("a thread in the middle leaves", THREE + """
+            retype(3, 2, 0, 7) = 0
+            configure(7, 0, -1, 3) = 0
+            run(7, true) = 0
+            send(4, 1, -1, true) = 10
+            send(4, 2, -1, true) = 10
+            send(4, 3, -1, true) = 10
+            current() = 64
+            run(5, false) = 0
+            receive(4, -1, true) = 0
+            thread(64, 2) = 1
+            receive(4, -1, true) = 0
+            thread(64, 2) = 3
+            receive(4, -1, false) = 6
+            """);
+        s.run("the first thread leaves", THREE + """
             send(4, 1, -1, true) = 10
             send(4, 2, -1, true) = 10
             run(1, false) = 0

@@ -70,7 +70,8 @@ public final class ModelTest {
             String name = call.substring(0, call.indexOf('('));
             seen.merge(name + " " + (name.equals("tick") ? 0 : got), 1, Integer::sum);
             if (got != due) {
-                System.out.println("run " + run + ", call " + n + ": " + call + " answered " + got + ", the model " + due);
+                String where = "run " + run + ", call " + n + ": ";
+                System.out.println(where + call + " answered " + got + ", the model " + due);
                 return false;
             }
             if (n % every != 0 && n != CALLS - 1) {

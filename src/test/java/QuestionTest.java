@@ -15,8 +15,22 @@ public final class QuestionTest {
             current() = 40
             run(5, false) = 0
             current() = 32
+            configure(4, 0, -1, 0) = 0
+            current() = 32
             run(4, false) = 0
             current() = -1
+            """);
+        s.run("slot: no slot of the neighbour", """
+            retype(3, 1, 0, 4) = 0
+            retype(3, 1, 0, 5) = 0
+            copy(1, 95, 7, 0) = 0
+            copy(1, 96, 7, 0) = 0
+            slot(64, 15, 1) = 16
+            slot(80, 0, 1) = 16
+            slot(64, 16, 1) = -1
+            slot(80, -1, 1) = -1
+            slot(64, 17, 1) = -1
+            slot(72, 8, 1) = -1
             """);
         s.run("slot: wrong inputs", """
             slot(0, 0, -1) = -1

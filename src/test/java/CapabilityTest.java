@@ -1,121 +1,160 @@
-/** Promises 3 to 6: copy, move, delete, revoke; and what removing makes of objects. */
+/**
+ * Promises 3 to 6: copy, move, delete, revoke. What removing makes of objects is in RemovingTest, the order of
+ * the reasons in RefusalTest.
+ */
 public final class CapabilityTest {
+    /** Space 64 in slot 4, that of thread 16; leaf 68 in 5, in the space; frame 72 in 6, mapped at 0. */
+    private static final String MAPPED_FRAME = """
+        retype(3, 5, 0, 4) = 0
+        retype(3, 6, 0, 5) = 0
+        retype(3, 7, 0, 6) = 0
+        configure(1, 0, 4, 3) = 0
+        map(5, 4, 0) = 0
+        map(6, 4, 0) = 0
+        page(16, 0) = 968
+        """;
+
     public static void main(String[] args) {
         Scripts s = new Scripts();
         copies(s);
+        copiedRights(s);
+        copiedBadges(s);
+        copyRefusals(s);
         moves(s);
         deletes(s);
-        destroys(s);
         revokes(s);
+        revokesOfTables(s);
         s.end();
     }
 
     private static void copies(Scripts s) {
-        s.run("copy: rights are those of both", """
-            retype(2, 3, 0, 4) = 0
-            copy(4, 5, 6, 0) = 0
-            slot(0, 5, 2) = 6
-            copy(5, 6, 3, 0) = 0
-            slot(0, 6, 2) = 2
-            copy(6, 7, 7, 0) = 0
-            slot(0, 7, 2) = 2
-            copy(7, 8, 5, 0) = 0
-            slot(0, 8, 2) = 0
-            slot(0, 8, 0) = 3
-            slot(0, 8, 1) = 32
-            slot(0, 8, 5) = 7
-            slot(0, 7, 4) = 1
-            slot(0, 4, 4) = 1
-            slot(0, 2, 4) = 1
-            slot(0, 4, 7) = 5
+        s.each("copy: a new child, for the same object", Kinds.ALL + """
+            copy(@, 9, 7, 0) = 0
+            slot(0, @, 4) = 1
+            slot(0, @, 7) = 2
+            slot(0, 9, 4) = 0
+            slot(0, 9, 5) = @
+            slot(0, 9, 7) = 2
+            slot(0, 9, 6) = 0
+            """, "0 1 4 5 6 7 8");
+        s.run("copy: the kind and the object", Kinds.ALL + """
+            copy(8, 9, 7, 0) = 0
+            slot(0, 9, 0) = 7
+            slot(0, 9, 1) = 48
+            copy(9, 10, 7, 0) = 0
+            slot(0, 10, 0) = 7
+            slot(0, 10, 1) = 48
+            slot(0, 10, 5) = 9
+            slot(0, 8, 4) = 1
+            slot(0, 8, 7) = 3
             """);
-        s.run("copy: badges", """
-            retype(2, 3, 0, 4) = 0
-            retype(2, 4, 0, 5) = 0
-            copy(4, 6, 7, 255) = 0
-            slot(0, 6, 3) = 255
-            copy(6, 7, 7, 3) = 0
-            slot(0, 7, 3) = 255
-            copy(6, 8, 7, 0) = 0
-            slot(0, 8, 3) = 255
-            copy(5, 9, 7, 1) = 0
-            slot(0, 9, 3) = 1
-            copy(4, 10, 7, 0) = 0
-            slot(0, 10, 3) = 0
-            copy(10, 11, 7, 8) = 0
-            slot(0, 11, 3) = 8
-            # no badge for the other kinds
-            copy(1, 12, 7, 9) = 0
-            slot(0, 12, 3) = 0
-            copy(0, 13, 7, 9) = 0
-            slot(0, 13, 3) = 0
-            """);
-        s.run("copy: no badge for spaces, leaves and frames", """
-            retype(3, 5, 0, 4) = 0
-            retype(3, 6, 0, 5) = 0
-            retype(3, 7, 0, 6) = 0
-            copy(4, 7, 7, 9) = 0
-            copy(5, 8, 7, 9) = 0
-            copy(6, 9, 7, 9) = 0
-            slot(0, 7, 3) = 0
-            slot(0, 8, 3) = 0
-            slot(0, 9, 3) = 0
-            """);
-        s.run("copy: a copy of a mapped frame is not mapped", """
-            retype(3, 5, 0, 4) = 0
-            retype(3, 6, 0, 5) = 0
-            retype(3, 7, 0, 6) = 0
-            map(5, 4, 0) = 0
-            map(6, 4, 0) = 0
+        s.run("copy: it is not mapped", MAPPED_FRAME + """
             copy(6, 7, 7, 0) = 0
             slot(0, 6, 6) = 1
             slot(0, 7, 6) = 0
-            # a leaf is in its space whatever the capability
-            copy(5, 8, 7, 0) = 0
-            slot(0, 8, 6) = 1
+            unmap(7) = 7
+            map(7, 4, 3) = 0
+            page(16, 3) = 968
             """);
-        s.run("copy: refused", """
-            copy(4, 5, 7, 0) = 1
-            copy(-1, 5, 7, 0) = 1
-            copy(272, 5, 7, 0) = 1
-            copy(2, 5, 7, 0) = 2
-            copy(1, 5, 8, 0) = 4
-            copy(1, 5, -1, 0) = 4
-            copy(1, 5, 7, 256) = 4
-            copy(1, 5, 7, -1) = 4
-            copy(1, 0, 7, 0) = 3
-            copy(1, -1, 7, 0) = 3
-            copy(1, 272, 7, 0) = 3
-            copy(1, 32, 7, 0) = 3
-            copy(1, 1, 7, 0) = 3
-            # the order of the reasons
-            copy(4, 0, 8, 0) = 1
-            copy(2, 0, 8, 0) = 2
-            copy(1, 0, 8, 0) = 4
-            slot(0, 5, 0) = -1
-            slot(0, 1, 4) = 0
-            copy(1, 5, 0, 255) = 0
+        s.run("copy: a leaf is in its space whatever the capability", MAPPED_FRAME + """
+            copy(5, 7, 0, 0) = 0
+            slot(0, 7, 6) = 1
             """);
-        s.run("addresses through tables", """
+        s.run("copy: through tables", """
             retype(3, 1, 0, 4) = 0
             copy(1, 80, 7, 0) = 0
             slot(64, 0, 1) = 16
             slot(64, 0, 5) = 1
             copy(80, 95, 7, 0) = 0
             slot(64, 15, 5) = 1024
-            # slot 15 of table 0 holds a table: addresses 256 .. 271
-            copy(4, 15, 7, 0) = 0
-            copy(256, 271, 7, 0) = 3
-            delete(271) = 0
-            slot(64, 15, 0) = -1
-            copy(256, 271, 7, 0) = 0
-            slot(64, 15, 0) = 2
-            slot(64, 15, 5) = 1024
             """);
     }
 
+    private static void copiedRights(Scripts s) {
+        for (int has = 0; has < 8; has++) {
+            StringBuilder text = new StringBuilder(Kinds.ALL);
+            text.append("copy(4, 9, ").append(has).append(", 0) = 0\n");
+            for (int wanted = 0; wanted < 8; wanted++) {
+                text.append("copy(9, 10, ").append(wanted).append(", 0) = 0\n");
+                text.append("slot(0, 10, 2) = ").append(has & wanted).append("\n");
+                text.append("delete(10) = 0\n");
+            }
+            s.run("copy: its rights are those that both src and the number rights have, src " + has, text.toString());
+        }
+    }
+
+    private static void copiedBadges(Scripts s) {
+        s.each("copy: its badge is badge if that of src is 0 and the object is a gate or a bell", Kinds.ALL + """
+            copy(4, 9, 7, @) = 0
+            slot(0, 9, 3) = @
+            copy(5, 10, 7, @) = 0
+            slot(0, 10, 3) = @
+            """, "0 1 2 127 128 254 255");
+        s.each("copy: its badge is that of src, if that is not 0", Kinds.ALL + """
+            copy(4, 9, 7, 1) = 0
+            copy(5, 10, 7, 255) = 0
+            copy(9, 11, 7, @) = 0
+            slot(0, 11, 3) = 1
+            copy(10, 12, 7, @) = 0
+            slot(0, 12, 3) = 255
+            """, "0 1 9 254 255");
+        s.run("copy: a copy with badge 0 can get one later", Kinds.ALL + """
+            copy(4, 9, 7, 0) = 0
+            copy(9, 10, 7, 8) = 0
+            slot(0, 9, 3) = 0
+            slot(0, 10, 3) = 8
+            """);
+        s.each("copy: no badge for the other kinds", Kinds.ALL + """
+            copy(@, 9, 7, 255) = 0
+            slot(0, 9, 3) = 0
+            """, "0 1 6 7 8");
+    }
+
+    private static void copyRefusals(Scripts s) {
+        s.each("copy refused: NO CAPABILITY (1) for any kind at src", Kinds.ALL + """
+            copy(@, 9, 7, 0) = 1
+            """, Kinds.EMPTY + " -1 " + Kinds.NO_SLOT);
+        s.each("copy refused: RIGHT (2): it is for untyped memory", Kinds.ALL + """
+            copy(@, 9, 7, 0) = 2
+            """, Kinds.UNTYPED);
+        s.each("copy refused: RANGE (4): rights is not 0 .. 7", Kinds.ALL + """
+            copy(4, 9, @, 0) = 4
+            """, "-1 8 9 15 16 -8 -2147483648 2147483647");
+        s.each("copy refused: RANGE (4): rights is not 0 .. 7: the first and the last", Kinds.ALL + """
+            copy(4, 9, @, 0) = 0
+            slot(0, 9, 2) = @
+            """, "0 7");
+        s.each("copy refused: RANGE (4): badge is not 0 .. 255", Kinds.ALL + """
+            copy(4, 9, 7, @) = 4
+            copy(1, 9, 7, @) = 4
+            """, "-1 256 257 511 512 -256 -2147483648 2147483647");
+        s.each("copy refused: RANGE (4): badge is not 0 .. 255, though src has one already", Kinds.ALL + """
+            copy(4, 9, 7, 5) = 0
+            copy(9, 10, 7, @) = 4
+            """, "-1 256");
+        s.each("copy refused: RANGE (4): badge is not 0 .. 255: the first and the last", Kinds.ALL + """
+            copy(4, 9, 7, @) = 0
+            slot(0, 9, 3) = @
+            """, "0 255");
+        s.each("copy refused: OCCUPIED (3) at dest", Kinds.ALL + """
+            copy(1, @, 7, 0) = 3
+            """, Kinds.occupied());
+        s.each("copy refused: OCCUPIED (3) at dest: it is empty", Kinds.ALL + """
+            copy(1, @, 7, 0) = 0
+            slot(0, 1, 4) = 1
+            """, Kinds.EMPTY);
+    }
+
     private static void moves(Scripts s) {
-        s.run("move: as it is", """
+        s.each("move: of any kind, the last slot and the first empty one", Kinds.ALL + """
+            move(@, 15) = 0
+            slot(0, @, 0) = -1
+            slot(0, 15, 7) = 1
+            move(15, 9) = 0
+            slot(0, 15, 0) = -1
+            slot(0, 9, 7) = 1
+            """, "1 2 3 4 5 6 7 8");
+        s.run("move: as it is, with parent and children", """
             retype(2, 3, 0, 4) = 0
             copy(4, 5, 6, 9) = 0
             copy(5, 6, 7, 0) = 0
@@ -130,13 +169,18 @@ public final class CapabilityTest {
             slot(0, 10, 7) = 3
             slot(0, 6, 5) = 10
             slot(0, 4, 4) = 1
-            move(2, 11) = 0
-            slot(0, 11, 6) = 34
-            slot(0, 4, 5) = 11
-            retype(11, 3, 0, 12) = 0
-            slot(0, 12, 1) = 34
             """);
-        s.run("move: into another table", """
+        s.run("move: as it is, whether it is mapped", MAPPED_FRAME + """
+            copy(6, 7, 7, 0) = 0
+            move(6, 9) = 0
+            slot(0, 9, 6) = 1
+            page(16, 0) = 968
+            move(7, 10) = 0
+            slot(0, 10, 6) = 0
+            unmap(9) = 0
+            page(16, 0) = -1
+            """);
+        s.run("move: into another table, and a table into itself", """
             retype(3, 1, 0, 4) = 0
             move(1, 83) = 0
             slot(0, 1, 0) = -1
@@ -144,7 +188,7 @@ public final class CapabilityTest {
             slot(64, 3, 7) = 1
             current() = 16
             run(83, true) = 0
-            # a table into itself: still there, but not to be reached
+            # still there, but not to be reached
             move(4, 80) = 0
             slot(64, 0, 0) = 1
             slot(64, 0, 1) = 64
@@ -155,35 +199,32 @@ public final class CapabilityTest {
             slot(64, 0, 0) = -1
             current() = -1
             """);
-        s.run("move: a mapped frame stays mapped", """
-            retype(3, 5, 0, 4) = 0
-            retype(3, 6, 0, 5) = 0
-            retype(3, 7, 0, 6) = 0
-            configure(1, 0, 4, 3) = 0
-            map(5, 4, 0) = 0
-            map(6, 4, 0) = 0
-            move(6, 9) = 0
-            slot(0, 9, 6) = 1
-            page(16, 0) = 968
-            unmap(9) = 0
-            page(16, 0) = -1
+        s.run("move: table 0 itself, in its own slots", """
+            move(0, 15) = 0
+            slot(0, 0, 0) = -1
+            slot(0, 15, 1) = 0
+            # it is reached by 256 .. 271 now, not by 16 .. 31
+            delete(17) = 1
+            copy(257, 256, 7, 0) = 0
+            slot(0, 0, 1) = 16
             """);
-        s.run("move: refused", """
-            move(4, 5) = 1
-            move(-1, 5) = 1
-            move(300, 5) = 1
-            move(1, 1) = 3
-            move(1, 0) = 3
-            move(1, -1) = 3
-            move(1, 272) = 3
-            move(1, 64) = 3
-            move(4, 0) = 1
-            slot(0, 1, 0) = 2
-            """);
+        s.each("move refused: NO CAPABILITY (1) for any kind at src", Kinds.ALL + """
+            move(@, 10) = 1
+            """, Kinds.EMPTY + " -1 " + Kinds.NO_SLOT);
+        s.each("move refused: OCCUPIED (3) at dest", Kinds.ALL + """
+            move(1, @) = 3
+            """, Kinds.occupied());
+        s.each("move refused: OCCUPIED (3) at dest: its own slot", Kinds.ALL + """
+            move(@, @) = 3
+            """, "0 1 2 3 4 5 6 7 8 16 24");
+        s.each("move refused: OCCUPIED (3) at dest: it is empty", Kinds.ALL + """
+            move(1, @) = 0
+            slot(0, 1, 0) = -1
+            """, Kinds.EMPTY);
     }
 
     private static void deletes(Scripts s) {
-        s.run("delete: children get the parent", """
+        s.run("delete: the capability is removed, its children stay", """
             retype(2, 3, 0, 4) = 0
             copy(4, 5, 7, 1) = 0
             copy(5, 6, 7, 0) = 0
@@ -196,206 +237,21 @@ public final class CapabilityTest {
             slot(0, 4, 7) = 3
             delete(4) = 0
             slot(0, 6, 5) = 2
-            slot(0, 7, 5) = 2
             slot(0, 2, 4) = 2
             delete(2) = 0
             slot(0, 6, 5) = -1
             slot(0, 6, 7) = 2
             """);
-        s.run("delete: refused", """
-            delete(4) = 1
-            delete(-1) = 1
-            delete(272) = 1
-            delete(32) = 1
-            delete(-2147483648) = 1
-            delete(2147483647) = 1
-            """);
-        s.run("delete: one of two for a thread", """
-            copy(1, 4, 7, 0) = 0
-            delete(1) = 0
-            current() = 16
-            slot(0, 4, 5) = -1
-            slot(0, 4, 7) = 1
-            delete(4) = 0
-            current() = -1
-            thread(16, 0) = -1
-            slot(0, 0, 0) = 1
-            delete(0) = 8
-            """);
-    }
-
-    private static void destroys(Scripts s) {
-        s.run("a table: its capabilities go, and theirs", """
+        s.run("delete: through a table", """
             retype(3, 1, 0, 4) = 0
-            retype(3, 1, 0, 5) = 0
-            retype(3, 1, 0, 6) = 0
-            retype(2, 2, 0, 7) = 0
-            retype(2, 3, 0, 8) = 0
-            configure(7, 6, -1, 0) = 0
-            thread(32, 6) = 96
-            # table 80 hangs in table 64 alone
-            move(5, 81) = 0
-            slot(64, 1, 1) = 80
-            retype(3, 1, 0, 5) = 0
-            slot(0, 5, 1) = 112
-            copy(8, 82, 7, 5) = 0
-            copy(82, 9, 7, 0) = 0
-            slot(0, 9, 5) = 1026
-            delete(4) = 0
-            slot(64, 1, 0) = -1
-            slot(64, 2, 0) = -1
-            slot(80, 0, 0) = -1
-            slot(0, 9, 5) = 8
-            thread(32, 6) = 96
-            delete(6) = 0
-            thread(32, 6) = -1
-            thread(32, 0) = 1
-            """);
-        s.run("nested tables go all at once", """
-            retype(3, 1, 0, 4) = 0
-            retype(3, 1, 0, 5) = 0
-            retype(2, 2, 0, 6) = 0
-            copy(1, 96, 7, 0) = 0
-            move(6, 97) = 0
-            move(5, 80) = 0
-            slot(64, 0, 1) = 80
-            slot(80, 1, 1) = 32
-            slot(0, 1, 4) = 1
-            slot(0, 2, 4) = 1
-            delete(4) = 0
-            slot(80, 0, 0) = -1
-            slot(80, 1, 0) = -1
-            thread(32, 0) = -1
-            slot(0, 1, 7) = 1
-            slot(0, 1, 4) = 0
-            slot(0, 2, 4) = 0
-            slot(0, 3, 4) = 0
-            """);
-        s.run("nested tables go whatever their order in memory", """
-            # table 32 hangs in table 64, table 48 in table 32, a thread in table 48
-            retype(2, 1, 0, 4) = 0
-            retype(2, 1, 0, 5) = 0
-            retype(3, 1, 0, 6) = 0
-            retype(3, 2, 0, 97) = 0
-            move(5, 80) = 0
-            move(4, 112) = 0
-            slot(48, 1, 1) = 80
-            slot(32, 0, 1) = 48
-            slot(64, 0, 1) = 32
-            thread(80, 0) = 1
-            delete(112) = 0
-            slot(32, 0, 0) = -1
-            slot(48, 1, 0) = -1
-            thread(80, 0) = -1
-            slot(0, 2, 4) = 0
-            slot(0, 3, 4) = 1
-            """);
-        s.run("the neighbours of a destroyed table stay", """
-            retype(3, 1, 0, 4) = 0
-            retype(3, 1, 0, 5) = 0
-            retype(3, 1, 0, 6) = 0
             copy(1, 95, 7, 0) = 0
-            copy(1, 96, 7, 0) = 0
-            copy(1, 111, 7, 0) = 0
-            copy(1, 112, 7, 0) = 0
-            slot(64, 15, 0) = 2
-            slot(80, 0, 0) = 2
-            slot(80, 15, 0) = 2
-            slot(96, 0, 0) = 2
-            delete(5) = 0
-            slot(64, 15, 0) = 2
-            slot(80, 0, 0) = -1
-            slot(80, 15, 0) = -1
-            slot(96, 0, 0) = 2
-            slot(0, 1, 4) = 2
+            delete(95) = 0
+            slot(64, 15, 0) = -1
+            slot(0, 1, 4) = 0
             """);
-        s.run("the table of the current thread", """
-            retype(3, 1, 0, 4) = 0
-            copy(4, 5, 7, 0) = 0
-            configure(1, 5, -1, 3) = 0
-            thread(16, 6) = 64
-            run(0, true) = 1
-            configure(1, -1, -1, 3) = 1
-            slot(64, 0, 0) = -1
-            """);
-        s.run("table 0 goes with all that is in it", """
-            retype(2, 3, 0, 4) = 0
-            delete(0) = 0
-            slot(0, 0, 0) = -1
-            slot(0, 1, 0) = -1
-            slot(0, 4, 0) = -1
-            thread(16, 0) = -1
-            current() = -1
-            retype(2, 3, 0, 4) = 8
-            """);
-        s.run("the current thread outlives table 0", """
-            retype(3, 1, 0, 4) = 0
-            copy(4, 80, 7, 0) = 0
-            copy(1, 81, 7, 0) = 0
-            delete(0) = 0
-            current() = 16
-            thread(16, 6) = -1
-            slot(64, 0, 0) = 1
-            slot(64, 0, 5) = -1
-            slot(64, 1, 1) = 16
-            slot(64, 1, 7) = 1
-            delete(0) = 1
-            tick() = 16
-            """);
-        s.run("threads at a gate are stopped", """
-            retype(2, 3, 0, 4) = 0
-            retype(2, 2, 0, 5) = 0
-            retype(2, 2, 0, 6) = 0
-            configure(5, 0, -1, 3) = 0
-            configure(6, 0, -1, 3) = 0
-            run(5, true) = 0
-            run(6, true) = 0
-            receive(4, 9, true) = 10
-            current() = 40
-            receive(4, 9, true) = 10
-            current() = 48
-            copy(4, 7, 7, 0) = 0
-            delete(4) = 0
-            thread(16, 0) = 4
-            delete(7) = 0
-            thread(16, 0) = 1
-            thread(40, 0) = 1
-            thread(48, 0) = 2
-            run(5, true) = 0
-            thread(40, 0) = 2
-            thread(40, 5) = 3
-            """);
-        s.run("threads at a bell are stopped and its lines are bound no more", """
-            retype(2, 4, 0, 4) = 0
-            retype(2, 2, 0, 5) = 0
-            retype(2, 4, 0, 7) = 0
-            configure(5, 0, -1, 3) = 0
-            run(5, true) = 0
-            bind(0, 4) = 0
-            bind(3, 4) = 0
-            bind(1, 7) = 0
-            listen(4, true) = 10
-            current() = 40
-            delete(4) = 0
-            thread(16, 0) = 1
-            interrupt(0) = 0
-            interrupt(3) = 0
-            interrupt(1) = 1
-            """);
-        s.run("a thread leaves its line, gate or bell", """
-            retype(2, 2, 0, 4) = 0
-            retype(2, 3, 0, 5) = 0
-            retype(2, 4, 0, 6) = 0
-            configure(4, 0, -1, 3) = 0
-            run(4, true) = 0
-            receive(5, 7, true) = 10
-            current() = 32
-            delete(1) = 0
-            thread(16, 0) = -1
-            send(5, 1, -1, false) = 6
-            delete(4) = 0
-            current() = -1
-            """);
+        s.each("delete refused: NO CAPABILITY (1) for any kind", Kinds.ALL + """
+            delete(@) = 1
+            """, Kinds.EMPTY + " -1 " + Kinds.NO_SLOT);
     }
 
     private static void revokes(Scripts s) {
@@ -404,29 +260,63 @@ public final class CapabilityTest {
             copy(4, 5, 7, 1) = 0
             copy(5, 6, 7, 0) = 0
             copy(6, 7, 7, 0) = 0
-            copy(4, 8, 7, 2) = 0
+            copy(7, 8, 7, 0) = 0
+            copy(4, 9, 7, 2) = 0
             revoke(5) = 0
             slot(0, 5, 0) = 3
+            slot(0, 5, 4) = 0
             slot(0, 6, 0) = -1
             slot(0, 7, 0) = -1
-            slot(0, 8, 0) = 3
+            slot(0, 8, 0) = -1
+            # neither its parent nor its sister
+            slot(0, 4, 0) = 3
+            slot(0, 9, 0) = 3
             slot(0, 4, 7) = 3
-            revoke(7) = 1
-            revoke(8) = 0
-            slot(0, 8, 0) = 3
+            """);
+        s.each("revoke: nothing to remove is no refusal", Kinds.ALL + """
+            revoke(@) = 0
+            slot(0, @, 4) = 0
+            slot(0, @, 7) = 1
+            slot(0, 2, 4) = 5
+            """, "0 1 3 4 5 6 7 8");
+        s.run("revoke: untyped memory is free again", """
+            retype(2, 3, 0, 4) = 0
+            retype(2, 2, 0, 5) = 0
+            copy(5, 6, 7, 0) = 0
             revoke(2) = 0
             slot(0, 4, 0) = -1
             slot(0, 5, 0) = -1
-            slot(0, 8, 0) = -1
+            slot(0, 6, 0) = -1
             slot(0, 2, 4) = 0
             slot(0, 2, 6) = 32
+            thread(40, 0) = -1
             """);
-        s.run("revoke: refused", """
-            revoke(4) = 1
-            revoke(-1) = 1
-            revoke(272) = 1
-            revoke(48) = 1
+        s.run("revoke: of one object alone, where others were made out of the same memory", Kinds.ALL + """
+            copy(4, 9, 7, 0) = 0
+            revoke(4) = 0
+            slot(0, 2, 4) = 5
+            slot(0, 9, 0) = -1
+            revoke(3) = 0
+            slot(0, 2, 4) = 5
             """);
+        s.run("revoke: the descendants that it has now, after others between have gone", """
+            retype(2, 3, 0, 4) = 0
+            copy(4, 5, 7, 0) = 0
+            copy(5, 6, 7, 0) = 0
+            copy(6, 7, 7, 0) = 0
+            delete(6) = 0
+            slot(0, 7, 5) = 5
+            revoke(5) = 0
+            slot(0, 7, 0) = -1
+            slot(0, 5, 0) = 3
+            slot(0, 4, 7) = 2
+            """);
+        s.each("revoke refused: NO CAPABILITY (1) for any kind", Kinds.ALL + """
+            revoke(@) = 1
+            """, Kinds.EMPTY + " -1 " + Kinds.NO_SLOT);
+    }
+
+    private static void revokesOfTables(Scripts s) {
         s.run("revoke: an untyped memory that hangs in a table made out of it", """
             # table 64 and gate 80 are made out of the untyped memory 64, which then goes into table 64
             retype(3, 1, 0, 4) = 0
@@ -444,7 +334,7 @@ public final class CapabilityTest {
             slot(0, 1, 7) = 1
             current() = 16
             """);
-        s.run("revoke: what hangs in a revoked table but descends from others goes too", """
+        s.run("revoke: what hangs in a removed table but descends from others goes too", """
             retype(3, 1, 0, 4) = 0
             retype(2, 3, 0, 5) = 0
             copy(5, 80, 7, 1) = 0
@@ -454,6 +344,20 @@ public final class CapabilityTest {
             # its child stays and hangs on the grandparent
             slot(0, 6, 5) = 5
             slot(0, 5, 4) = 1
+            """);
+        s.run("revoke: the current thread may go with it", """
+            copy(1, 4, 7, 0) = 0
+            delete(1) = 0
+            copy(4, 5, 7, 0) = 0
+            copy(5, 6, 7, 0) = 0
+            revoke(5) = 0
+            current() = 16
+            retype(3, 1, 0, 7) = 0
+            move(4, 128) = 0
+            move(5, 129) = 0
+            slot(64, 0, 7) = 2
+            revoke(3) = 0
+            current() = -1
             """);
     }
 }

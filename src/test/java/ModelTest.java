@@ -1,24 +1,24 @@
+import java.util.ArrayList;
+import java.util.List;
 import java.util.Map;
 import java.util.Random;
 import java.util.TreeMap;
 
 /**
- * All promises: long runs of drawn calls are answered as by the model, and the whole state that questions
- * can tell is that of the model; a refused call changes nothing of it.
+ * All promises: long runs of drawn calls are answered as by the model, the whole state that questions can tell
+ * is that of the model, and a refused call changes nothing. No kernel is used for more than 512 calls.
  */
 public final class ModelTest {
-    private static final int RUNS = 1500;
-    private static final int CALLS = 512;
-    private static final int STATE = 128 * 8 + 16 * 8 + 16 * 16 + 1;
+    private static final int RUNS = 8000;
+    /** Above this there would be no room for the calls that look at the state. */
+    private static final int MOST_WITH_PICTURE = 360;
 
     private final Random random;
     private final int boldness;
-    private CapTreeKernel kernel;
-    private Model model;
     private final Map<String, Integer> seen;
-    private String call;
-    private int got;
-    private int due;
+    private final CapTreeKernel kernel = new CapTreeKernel();
+    private final Model model = new Model();
+    private final List<Call> calls = new ArrayList<>();
 
     private ModelTest(long seed, Map<String, Integer> seen) {
         random = new Random(seed);
@@ -29,7 +29,9 @@ public final class ModelTest {
     public static void main(String[] args) {
         Map<String, Integer> seen = new TreeMap<>();
         for (int run = 0; run < RUNS; run++) {
-            if (!new ModelTest(run, seen).isAsDue(run, run % 25 == 0 ? 1 : 64)) {
+            String fault = new ModelTest(run, seen).findFault();
+            if (fault != null) {
+                System.out.println("run " + run + ": " + fault);
                 System.exit(1);
             }
         }
@@ -59,89 +61,56 @@ public final class ModelTest {
         return good;
     }
 
-    private boolean isAsDue(int run, int every) {
-        int[] before = null;
-        for (int n = 0; n < CALLS; n++) {
-            if (n == 0 || isStuck() && chance(10)) {
-                begin();
-                before = kernelState();
+    /** What is not as due in this run, null when all is. */
+    private String findFault() {
+        int length = 1 + random.nextInt(Picture.MOST_CALLS);
+        if (chance(75)) {
+            String fault = makeAll(beginning());
+            if (fault != null) {
+                return fault;
             }
-            makeCall();
-            String name = call.substring(0, call.indexOf('('));
-            seen.merge(name + " " + (name.equals("tick") ? 0 : got), 1, Integer::sum);
-            if (got != due) {
-                String where = "run " + run + ", call " + n + ": ";
-                System.out.println(where + call + " answered " + got + ", the model " + due);
-                return false;
-            }
-            if (n % every != 0 && n != CALLS - 1) {
-                continue;
-            }
-            int[] after = kernelState();
-            if (!same(after, modelState(), "run " + run + ", after call " + n + ", " + call)) {
-                return false;
-            }
-            boolean refused = got >= 1 && got <= 8 && !name.equals("interrupt") && !name.equals("tick");
-            if (every == 1 && refused && !same(before, after, "refused " + call)) {
-                return false;
-            }
-            before = after;
         }
-        return true;
+        while (calls.size() < length && !(isStuck() && chance(10))) {
+            String fault = make(new Call(drawCall()));
+            if (fault != null) {
+                return fault;
+            }
+        }
+        if (calls.size() > MOST_WITH_PICTURE) {
+            return null;
+        }
+        String difference = Picture.afterByQuestions(calls).differenceFrom(Picture.of(model));
+        return difference == null ? null : "after " + calls.size() + " calls " + difference + " by the model";
+    }
+
+    private String makeAll(List<String> texts) {
+        for (String text : texts) {
+            String fault = make(new Call(text));
+            if (fault != null) {
+                return fault;
+            }
+        }
+        return null;
+    }
+
+    private String make(Call call) {
+        int got = call.on(kernel);
+        int due = call.on(model);
+        calls.add(call);
+        seen.merge(call.name + " " + (call.name.equals("tick") ? 0 : got), 1, Integer::sum);
+        if (got != due) {
+            return "call " + calls.size() + ", " + call.text + " answered " + got + ", the model " + due;
+        }
+        if (call.isRefusedBy(got) && calls.size() <= MOST_WITH_PICTURE && chance(1)) {
+            Picture before = Picture.after(calls.subList(0, calls.size() - 1));
+            String difference = Picture.after(calls).differenceFrom(before);
+            return difference == null ? null : "refused " + call.text + ", but then " + difference + " without it";
+        }
+        return null;
     }
 
     private boolean isStuck() {
         return model.current() == -1 || model.thread(model.current(), 6) == -1;
-    }
-
-    private static boolean same(int[] a, int[] b, String where) {
-        for (int i = 0; i < STATE; i++) {
-            if (a[i] != b[i]) {
-                System.out.println(where + ": question " + i + " differs, " + a[i] + " and " + b[i]);
-                return false;
-            }
-        }
-        return true;
-    }
-
-    private int[] kernelState() {
-        int[] s = new int[STATE];
-        int n = 0;
-        for (int place = 0; place < 128; place++) {
-            for (int what = 0; what < 8; what++) {
-                s[n++] = kernel.slot(place / 16 * 16, place % 16, what);
-            }
-        }
-        for (int t = 0; t < 128; t += 8) {
-            for (int what = 0; what < 8; what++) {
-                s[n++] = kernel.thread(t, what);
-            }
-            for (int at = 0; at < 16; at++) {
-                s[n++] = kernel.page(t, at);
-            }
-        }
-        s[n] = kernel.current();
-        return s;
-    }
-
-    private int[] modelState() {
-        int[] s = new int[STATE];
-        int n = 0;
-        for (int place = 0; place < 128; place++) {
-            for (int what = 0; what < 8; what++) {
-                s[n++] = model.slot(place / 16 * 16, place % 16, what);
-            }
-        }
-        for (int t = 0; t < 128; t += 8) {
-            for (int what = 0; what < 8; what++) {
-                s[n++] = model.thread(t, what);
-            }
-            for (int at = 0; at < 16; at++) {
-                s[n++] = model.page(t, at);
-            }
-        }
-        s[n] = model.current();
-        return s;
     }
 
     private boolean chance(int percent) {
@@ -192,129 +161,85 @@ public final class ModelTest {
         return a < 4 && !chance(boldness) ? address(8) : a;
     }
 
-    private void made(String text, int answer, int modelAnswer) {
-        call = text;
-        got = answer;
-        due = modelAnswer;
-    }
-
-    /** A new kernel; three times out of four with threads that share gates and bells. */
-    private void begin() {
-        kernel = new CapTreeKernel();
-        model = new Model();
-        if (chance(25)) {
-            return;
-        }
+    /** Threads that share gates and bells, so that there is more to be drawn. */
+    private List<String> beginning() {
+        List<String> texts = new ArrayList<>();
         int[][] made = {{2, 3, 4}, {2, 4, 5}, {2, 2, 6}, {2, 2, 7}, {3, 1, 8}, {2, 5, 9}, {3, 6, 10}, {3, 7, 11}};
         for (int[] m : made) {
-            kernel.retype(m[0], m[1], 0, m[2]);
-            model.retype(m[0], m[1], 0, m[2]);
+            texts.add(text("retype", m[0], m[1], 0, m[2]));
         }
         for (int a = 4; a < 12; a++) {
             if (chance(60)) {
-                kernel.copy(a, 144 + a, 7, a);
-                model.copy(a, 144 + a, 7, a);
+                texts.add(text("copy", a, 144 + a, 7, a));
             }
         }
         for (int t = 6; t <= 7; t++) {
-            int table = chance(50) ? 0 : 8;
-            int priority = random.nextInt(4);
-            kernel.configure(t, table, 9, priority);
-            model.configure(t, table, 9, priority);
-            kernel.run(t, true);
-            model.run(t, true);
+            texts.add(text("configure", t, chance(50) ? 0 : 8, 9, random.nextInt(4)));
+            texts.add(text("run", t, true));
         }
+        return texts;
     }
 
-    private void makeCall() {
+    private static String text(String name, Object... args) {
+        StringBuilder all = new StringBuilder();
+        for (Object arg : args) {
+            all.append(all.length() == 0 ? "" : ", ").append(arg);
+        }
+        return name + "(" + all + ")";
+    }
+
+    private String drawCall() {
         int draw = random.nextInt(100);
         if (draw < 52) {
-            makeCapabilityCall(draw);
-        } else if (draw < 90) {
-            makeThreadCall(draw);
-        } else {
-            makeMapCall();
+            return drawCapabilityCall(draw);
         }
+        return draw < 90 ? drawThreadCall(draw) : drawMapCall();
     }
 
-    private void makeCapabilityCall(int draw) {
+    private String drawCapabilityCall(int draw) {
         if (draw < 22) {
             int[] kinds = {0, 1, 1, 2, 2, 2, 3, 3, 4, 4, 5, 6, 6, 7};
-            int u = address(0);
             int kind = chance(4) ? wild() : kinds[random.nextInt(kinds.length)];
             int bits = chance(20) ? wild() : 1 + random.nextInt(6);
-            int dest = address(10);
-            made("retype(" + u + ", " + kind + ", " + bits + ", " + dest + ")",
-                kernel.retype(u, kind, bits, dest), model.retype(u, kind, bits, dest));
+            return text("retype", address(0), kind, bits, address(10));
         } else if (draw < 34) {
-            int src = address(8);
-            int dest = address(10);
-            int rights = chance(50) ? 7 : small(8);
-            int badge = small(256);
-            made("copy(" + src + ", " + dest + ", " + rights + ", " + badge + ")",
-                kernel.copy(src, dest, rights, badge), model.copy(src, dest, rights, badge));
+            return text("copy", address(8), address(10), chance(50) ? 7 : small(8), small(256));
         } else if (draw < 41) {
-            int src = chance(30) ? address(8) : victim();
-            int dest = address(10);
-            made("move(" + src + ", " + dest + ")", kernel.move(src, dest), model.move(src, dest));
+            return text("move", chance(30) ? address(8) : victim(), address(10));
         } else if (draw < 49) {
-            int a = victim();
-            made("delete(" + a + ")", kernel.delete(a), model.delete(a));
-        } else {
-            int a = victim();
-            made("revoke(" + a + ")", kernel.revoke(a), model.revoke(a));
+            return text("delete", victim());
         }
+        return text("revoke", victim());
     }
 
-    private void makeThreadCall(int draw) {
+    private String drawThreadCall(int draw) {
         boolean flag = chance(60);
         if (draw < 59) {
-            int t = address(2);
             int table = chance(8) ? -1 : address(1);
             int space = chance(30) ? -1 : address(5);
-            int priority = small(4);
-            made("configure(" + t + ", " + table + ", " + space + ", " + priority + ")",
-                kernel.configure(t, table, space, priority), model.configure(t, table, space, priority));
+            return text("configure", address(2), table, space, small(4));
         } else if (draw < 65) {
-            int t = address(2);
-            boolean on = chance(85);
-            made("run(" + t + ", " + on + ")", kernel.run(t, on), model.run(t, on));
+            return text("run", address(2), chance(85));
         } else if (draw < 71) {
-            int g = address(3);
-            int word = random.nextInt();
-            int c = chance(20) ? -1 : address(8);
-            made("send(" + g + ", " + word + ", " + c + ", " + flag + ")",
-                kernel.send(g, word, c, flag), model.send(g, word, c, flag));
+            return text("send", address(3), random.nextInt(), chance(20) ? -1 : address(8), flag);
         } else if (draw < 77) {
-            int g = address(3);
-            int d = chance(20) ? -1 : address(10);
-            made("receive(" + g + ", " + d + ", " + flag + ")", kernel.receive(g, d, flag), model.receive(g, d, flag));
+            return text("receive", address(3), chance(20) ? -1 : address(10), flag);
         } else if (draw < 80) {
-            int b = address(4);
-            made("signal(" + b + ")", kernel.signal(b), model.signal(b));
+            return text("signal", address(4));
         } else if (draw < 83) {
-            int b = address(4);
-            made("listen(" + b + ", " + flag + ")", kernel.listen(b, flag), model.listen(b, flag));
+            return text("listen", address(4), flag);
         } else if (draw < 85) {
-            int line = small(4);
-            int b = chance(10) ? -1 : address(4);
-            made("bind(" + line + ", " + b + ")", kernel.bind(line, b), model.bind(line, b));
+            return text("bind", small(4), chance(10) ? -1 : address(4));
         } else if (draw < 87) {
-            int line = small(4);
-            made("interrupt(" + line + ")", kernel.interrupt(line), model.interrupt(line));
-        } else {
-            made("tick()", kernel.tick(), model.tick());
+            return text("interrupt", small(4));
         }
+        return text("tick");
     }
 
-    private void makeMapCall() {
-        int c = address(9);
+    private String drawMapCall() {
         if (chance(70)) {
-            int s = address(5);
-            int at = small(16);
-            made("map(" + c + ", " + s + ", " + at + ")", kernel.map(c, s, at), model.map(c, s, at));
-        } else {
-            made("unmap(" + c + ")", kernel.unmap(c), model.unmap(c));
+            return text("map", address(9), address(5), small(16));
         }
+        return text("unmap", address(9));
     }
 }

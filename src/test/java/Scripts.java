@@ -1,72 +1,82 @@
-import java.lang.reflect.Method;
-import java.util.HashMap;
-import java.util.Map;
+import java.util.ArrayList;
+import java.util.List;
 
 /**
- * Runs scripts, each on a new kernel. A line is one call with the answer that is due, "tick() = 16";
- * a line that begins with # is a remark.
+ * Runs scripts, each on a new kernel. A line is one call with the answer that is due, "tick() = 16"; a line
+ * that begins with # is a remark. Of each call that is refused it is looked at, too, that it changed nothing.
  */
 final class Scripts {
-    private final Map<String, Method> calls = new HashMap<>();
     private int wrong;
     private int made;
-
-    Scripts() {
-        for (Method m : CapTreeKernel.class.getDeclaredMethods()) {
-            if (java.lang.reflect.Modifier.isPublic(m.getModifiers())) {
-                calls.put(m.getName(), m);
-            }
-        }
-    }
+    private int refused;
 
     void run(String title, String script) {
-        CapTreeKernel kernel = new CapTreeKernel();
-        int number = 0;
+        List<Call> calls = new ArrayList<>();
+        List<Integer> answers = new ArrayList<>();
         for (String line : script.split("\n")) {
-            number++;
             String text = line.trim();
             if (text.isEmpty() || text.startsWith("#")) {
                 continue;
             }
             int sign = text.lastIndexOf(" = ");
-            int due = Integer.parseInt(text.substring(sign + 3).trim());
-            check(title + ", line " + number, kernel, text.substring(0, sign), due);
+            calls.add(new Call(text.substring(0, sign)));
+            answers.add(Integer.valueOf(text.substring(sign + 3).trim()));
         }
-    }
-
-    private void check(String where, CapTreeKernel kernel, String call, int due) {
-        made++;
         try {
-            int got = answer(kernel, call);
-            if (got != due) {
-                wrong++;
-                System.out.println(where + ": " + call + " answered " + got + ", due is " + due);
-            }
-        } catch (ReflectiveOperationException e) {
-            wrong++;
-            System.out.println(where + ": " + call + " ended with " + e.getCause());
+            checkAnswers(title, calls, answers);
+            checkRefusals(title, calls, answers);
+        } catch (IllegalStateException e) {
+            report(title, e.getMessage());
         }
     }
 
-    private int answer(CapTreeKernel kernel, String call) throws ReflectiveOperationException {
-        int open = call.indexOf('(');
-        String inside = call.substring(open + 1, call.length() - 1).trim();
-        String[] parts = inside.isEmpty() ? new String[0] : inside.split(",");
-        Method method = calls.get(call.substring(0, open));
-        Object[] args = new Object[parts.length];
-        for (int i = 0; i < parts.length; i++) {
-            String part = parts[i].trim();
-            if (method.getParameterTypes()[i] == boolean.class) {
-                args[i] = part.equals("true");
-            } else {
-                args[i] = Integer.parseInt(part);
+    /** The script with each of the values in the place of @, on a new kernel each time. */
+    void each(String title, String script, String values) {
+        for (String value : values.trim().split(" +")) {
+            run(title + " [@ = " + value + "]", script.replace("@", value));
+        }
+    }
+
+    private void checkAnswers(String title, List<Call> calls, List<Integer> answers) {
+        if (calls.size() > Picture.MOST_CALLS) {
+            report(title, "the script has more calls than the document allows");
+        }
+        CapTreeKernel kernel = new CapTreeKernel();
+        for (int i = 0; i < calls.size(); i++) {
+            made++;
+            int got = calls.get(i).on(kernel);
+            if (got != answers.get(i)) {
+                report(title, "call " + (i + 1) + ", " + calls.get(i).text + " answered " + got
+                    + ", due is " + answers.get(i));
             }
         }
-        return (int) method.invoke(kernel, args);
+    }
+
+    private void checkRefusals(String title, List<Call> calls, List<Integer> answers) {
+        Picture last = null;
+        for (int i = 0; i < calls.size(); i++) {
+            if (!calls.get(i).isRefusedBy(answers.get(i))) {
+                last = null;
+                continue;
+            }
+            refused++;
+            Picture before = last == null ? Picture.after(calls.subList(0, i)) : last;
+            last = Picture.after(calls.subList(0, i + 1));
+            String difference = last.differenceFrom(before);
+            if (difference != null) {
+                report(title, "call " + (i + 1) + ", " + calls.get(i).text + " was refused, but then "
+                    + difference + " without it");
+            }
+        }
+    }
+
+    private void report(String title, String what) {
+        wrong++;
+        System.out.println(title + ": " + what);
     }
 
     void end() {
-        System.out.println(made + " calls, " + wrong + " answers not as due");
+        System.out.println(made + " calls, " + refused + " of them refused; " + wrong + " are not as due");
         if (wrong != 0) {
             System.exit(1);
         }

@@ -70,6 +70,22 @@ public final class AddressTest {
             copy(15, 0, 7, 0) = 0
             slot(80, 0, 5) = 1295
             """);
+        s.each("no slot when it is another number: nor are the slots of the tables beside it meant", """
+            retype(3, 1, 0, 4) = 0
+            retype(3, 1, 0, 5) = 0
+            retype(3, 1, 0, 6) = 0
+            # table 80 has slots of both neighbours beside it, with table 64 and thread 16 in them
+            copy(1, 80, 7, 0) = 0
+            copy(1, 94, 7, 0) = 0
+            copy(4, 95, 7, 0) = 0
+            copy(4, 112, 7, 0) = 0
+            copy(4, 96, 7, 0) = 0
+            configure(1, 5, -1, 3) = 0
+            copy(@, 15, 7, 0) = 1
+            move(@, 15) = 1
+            delete(@) = 1
+            move(0, @) = 3
+            """, "-1 -2 -16 272 273 286 287 288");
         String without = """
             retype(2, 2, 0, 4) = 0
             configure(4, -1, -1, 3) = 0

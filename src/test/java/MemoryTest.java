@@ -6,6 +6,7 @@ public final class MemoryTest {
     public static void main(String[] args) {
         Scripts s = new Scripts();
         units(s);
+        firstAndLastSlot(s);
         sizes(s);
         slots(s);
         manyCalls(s);
@@ -60,6 +61,50 @@ public final class MemoryTest {
             thread(33, 0) = -1
             thread(39, 0) = -1
             thread(40, 0) = -1
+            """);
+    }
+
+    /** Table 0 is moved out of slot 0; table 112 is in slot 7, so that its slot 15 is at address 143. */
+    private static void firstAndLastSlot(Scripts s) {
+        String ends = """
+            retype(3, 1, 0, 4) = 0
+            retype(3, 1, 0, 5) = 0
+            retype(3, 1, 0, 6) = 0
+            retype(3, 1, 0, 7) = 0
+            slot(0, 7, 1) = 112
+            move(0, 15) = 0
+            """;
+        s.each("MEMORY has 128 units, 0 .. 127: capabilities in the slots at units 0 and 127 count", ends + """
+            copy(1, @, 7, 0) = 0
+            slot(0, 1, 4) = 1
+            slot(0, 1, 7) = 2
+            copy(@, 8, 7, 0) = 0
+            slot(0, 8, 7) = 3
+            delete(@) = 0
+            slot(0, 8, 5) = 1
+            slot(0, 8, 7) = 2
+            """, "0 143");
+        s.each("MEMORY has 128 units, 0 .. 127: capabilities in the slots at units 0 and 127 go with revoke", ends + """
+            copy(1, 8, 7, 0) = 0
+            copy(8, @, 7, 0) = 0
+            revoke(1) = 0
+            slot(0, 1, 7) = 1
+            delete(@) = 1
+            """, "0 143");
+        s.run("MEMORY has 128 units, 0 .. 127: a child in the slot at unit 0 gets another parent", ends + """
+            copy(1, 8, 7, 0) = 0
+            copy(8, 0, 7, 0) = 0
+            delete(8) = 0
+            slot(0, 0, 5) = 1
+            """);
+        s.run("MEMORY has 128 units, 0 .. 127: a child in the slot at unit 127 gets another parent", ends + """
+            copy(1, 8, 7, 0) = 0
+            copy(8, 143, 7, 0) = 0
+            delete(8) = 0
+            slot(112, 15, 5) = 1
+            delete(7) = 0
+            slot(112, 15, 5) = -1
+            slot(0, 1, 7) = 1
             """);
     }
 

@@ -18,19 +18,42 @@ public final class RefusalTest {
         String stopped = Kinds.ALL + """
             run(1, false) = 0
             """;
-        String[] calls = {
-            "retype(2, 3, 0, 9)", "retype(9, 3, 0, 9)", "retype(2, 8, 0, 9)", "retype(2, 0, 7, 9)", "retype(2, 3, 0, 0)",
-            "retype(2, 0, 6, 9)", "copy(1, 9, 7, 0)", "copy(9, 10, 7, 0)", "copy(2, 9, 7, 0)", "copy(1, 9, 8, 0)",
-            "copy(1, 9, 7, 256)", "copy(1, 0, 7, 0)", "move(1, 9)", "move(9, 10)", "move(1, 0)", "delete(1)", "delete(9)",
-            "revoke(2)", "revoke(9)", "configure(1, 0, -1, 3)", "configure(0, 0, -1, 3)", "configure(1, 1, -1, 3)",
-            "configure(1, 0, 1, 3)", "configure(1, 0, -1, 4)", "run(1, true)", "run(1, false)", "run(0, true)",
-            "send(4, 1, -1, true)", "send(4, 1, -1, false)", "send(5, 1, -1, true)", "receive(4, 9, true)",
-            "receive(4, 9, false)", "receive(5, 9, true)", "signal(5)", "signal(4)", "listen(5, true)",
-            "listen(5, false)", "listen(4, true)", "map(7, 6, 0)", "map(8, 6, 0)", "map(1, 6, 0)", "map(7, 1, 0)",
-            "map(7, 6, 16)", "unmap(7)", "unmap(1)", "bind(0, 5)", "bind(0, -1)", "bind(4, 5)", "bind(0, 4)"
-        };
-        for (String call : calls) {
+        String calls = """
+            retype(2, 3, 0, 9); retype(9, 3, 0, 9); retype(2, 8, 0, 9); retype(2, 0, 7, 9)
+            retype(2, 3, 0, 0); retype(2, 0, 6, 9)
+            copy(1, 9, 7, 0); copy(9, 10, 7, 0); copy(2, 9, 7, 0); copy(1, 9, 8, 0)
+            copy(1, 9, 7, 256); copy(1, 0, 7, 0)
+            move(1, 9); move(9, 10); move(1, 0)
+            delete(1); delete(9)
+            revoke(2); revoke(9)
+            configure(1, 0, -1, 3); configure(0, 0, -1, 3); configure(1, 1, -1, 3)
+            configure(1, 0, 1, 3); configure(1, 0, -1, 4)
+            run(1, true); run(1, false); run(0, true)
+            send(4, 1, -1, true); send(4, 1, -1, false); send(5, 1, -1, true)
+            receive(4, 9, true); receive(4, 9, false); receive(5, 9, true)
+            signal(5); signal(4)
+            listen(5, true); listen(5, false); listen(4, true)
+            map(7, 6, 0); map(8, 6, 0); map(1, 6, 0); map(7, 1, 0); map(7, 6, 16)
+            unmap(7); unmap(1)
+            bind(0, 5); bind(0, -1); bind(4, 5); bind(0, 4)
+            """;
+        // Thread 16 listens at another bell, by which it can be woken to look at what has become of the rest.
+        String listening = Kinds.ALL + """
+            retype(3, 4, 0, 14) = 0
+            bind(3, 14) = 0
+            listen(14, true) = 10
+            """;
+        String woken = """
+            interrupt(3) = 1
+            current() = 16
+            listen(5, false) = 6
+            receive(4, -1, false) = 6
+            send(4, 1, -1, false) = 6
+            interrupt(0) = 0
+            """;
+        for (String call : calls.split("; |\n")) {
             s.run("before all others: 8 IDLE, when there is no current thread", stopped + call + " = 8\n");
+            s.run("8 IDLE changes nothing", listening + call + " = 8\n" + woken);
         }
         s.run("IDLE is of system calls alone", stopped + """
             current() = -1

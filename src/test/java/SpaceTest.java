@@ -281,6 +281,17 @@ public final class SpaceTest {
                 + "map(9, 4, 5) = 0\n"
                 + "page(16, 5) = " + (88 + 128 * rights) + "\n");
         }
+        s.run("page: in the space of thread t, not in that of the current one", MAPPED + """
+            retype(2, 5, 0, 9) = 0
+            retype(2, 2, 0, 10) = 0
+            configure(10, -1, 9, 0) = 0
+            map(6, 9, 4) = 0
+            map(8, 9, 4) = 0
+            page(16, 0) = 976
+            page(16, 4) = -1
+            page(40, 0) = -1
+            page(40, 4) = 984
+            """);
         s.run("page: in the space of thread t, current or not", MAPPED + """
             retype(2, 2, 0, 9) = 0
             configure(9, -1, 4, 0) = 0

@@ -202,7 +202,8 @@ public final class ThreadTest {
                 text.append("configure(9, 0, 6, ").append(priority).append(") = ").append(due).append("\n");
             }
             text.append("thread(64, 1) = ").append(own).append("\n");
-            s.run("configure refused: RIGHT (2): priority is above that of the current thread, " + own, text.toString());
+            String title = "configure refused: RIGHT (2): priority is above that of the current thread, " + own;
+            s.run(title, text.toString());
         }
         s.run("configure refused: RIGHT (2): also when the thread has that priority already", STOPPED + """
             configure(9, 0, -1, 3) = 0
@@ -415,6 +416,32 @@ public final class ThreadTest {
             current() = 32
             thread(32, 1) = 0
             run(4, false) = 0
+            current() = -1
+            """);
+        s.run("current: a thread that has been in a line before leaves it for good", TWO + """
+            tick() = 16
+            tick() = 16
+            tick() = 64
+            tick() = 64
+            tick() = 64
+            tick() = 16
+            run(9, false) = 0
+            current() = 16
+            run(1, false) = 0
+            current() = -1
+            """);
+        s.run("current: threads that have waited come to the end of their line", TWO + """
+            bind(0, 5) = 0
+            listen(5, true) = 10
+            listen(5, true) = 10
+            current() = -1
+            interrupt(0) = 1
+            current() = 16
+            interrupt(0) = 1
+            current() = 16
+            run(1, false) = 0
+            current() = 64
+            run(9, false) = 0
             current() = -1
             """);
         s.run("current: NONE when there is none", """

@@ -27,6 +27,7 @@ public final class ModelTest {
     }
 
     public static void main(String[] args) {
+        Watchdog.start();
         Map<String, Integer> seen = new TreeMap<>();
         for (int run = 0; run < RUNS; run++) {
             String fault = new ModelTest(run, seen).findFault();

@@ -10,6 +10,10 @@ final class Scripts {
     private int made;
     private int refused;
 
+    Scripts() {
+        Watchdog.start();
+    }
+
     void run(String title, String script) {
         List<Call> calls = new ArrayList<>();
         List<Integer> answers = new ArrayList<>();

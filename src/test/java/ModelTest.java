@@ -6,7 +6,8 @@ import java.util.TreeMap;
 
 /**
  * All promises: long runs of drawn calls are answered as by the model, the whole state that questions can tell
- * is that of the model, and a refused call changes nothing. No kernel is used for more than 512 calls.
+ * is that of the model and keeps to what the document says of every state, and a refused call changes nothing.
+ * No kernel is used for more than 512 calls.
  */
 public final class ModelTest {
     private static final int RUNS = 8000;
@@ -80,7 +81,12 @@ public final class ModelTest {
         if (calls.size() > MOST_WITH_PICTURE) {
             return null;
         }
-        String difference = Picture.afterByQuestions(calls).differenceFrom(Picture.of(model));
+        Picture end = Picture.afterByQuestions(calls);
+        List<String> broken = Invariants.brokenIn(end);
+        if (!broken.isEmpty()) {
+            return "after " + calls.size() + " calls this does not hold: " + broken;
+        }
+        String difference = end.differenceFrom(Picture.of(model));
         return difference == null ? null : "after " + calls.size() + " calls " + difference + " by the model";
     }
 

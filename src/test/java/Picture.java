@@ -8,6 +8,12 @@ import java.util.List;
  */
 final class Picture {
     static final int MOST_CALLS = 512;
+    /** All slots that there can be: slot i of the table at unit t is place t + i. */
+    static final int PLACES = 128;
+    /** Threads begin at multiples of 8: the thread at unit 8 * t is number t. */
+    static final int THREADS = 16;
+    private static final int WHATS = 8;
+    private static final int PAGES = 16;
     static final List<Call> QUESTIONS = questions();
     private static final List<List<Call>> PROBES = probes();
 
@@ -54,6 +60,22 @@ final class Picture {
         return null;
     }
 
+    int slot(int place, int what) {
+        return answers.get(place * WHATS + what);
+    }
+
+    int thread(int t, int what) {
+        return answers.get((PLACES + t) * WHATS + what);
+    }
+
+    int page(int t, int at) {
+        return answers.get((PLACES + THREADS) * WHATS + t * PAGES + at);
+    }
+
+    int current() {
+        return answers.get((PLACES + THREADS) * WHATS + THREADS * PAGES);
+    }
+
     private void ask(List<Call> calls, List<Call> more) {
         if (calls.size() + more.size() > MOST_CALLS) {
             throw new IllegalArgumentException("more calls than the document allows");
@@ -74,15 +96,15 @@ final class Picture {
 
     private static List<Call> questions() {
         List<Call> list = new ArrayList<>();
-        for (int place = 0; place < 128; place++) {
-            for (int what = 0; what < 8; what++) {
+        for (int place = 0; place < PLACES; place++) {
+            for (int what = 0; what < WHATS; what++) {
                 list.add(new Call("slot(" + place / 16 * 16 + ", " + place % 16 + ", " + what + ")"));
             }
         }
-        addThreadQuestions(list, 8);
-        for (int t = 0; t < 128; t += 8) {
-            for (int at = 0; at < 16; at++) {
-                list.add(new Call("page(" + t + ", " + at + ")"));
+        addThreadQuestions(list, WHATS);
+        for (int t = 0; t < THREADS; t++) {
+            for (int at = 0; at < PAGES; at++) {
+                list.add(new Call("page(" + 8 * t + ", " + at + ")"));
             }
         }
         list.add(new Call("current()"));
@@ -90,9 +112,9 @@ final class Picture {
     }
 
     private static void addThreadQuestions(List<Call> list, int whats) {
-        for (int t = 0; t < 128; t += 8) {
+        for (int t = 0; t < THREADS; t++) {
             for (int what = 0; what < whats; what++) {
-                list.add(new Call("thread(" + t + ", " + what + ")"));
+                list.add(new Call("thread(" + 8 * t + ", " + what + ")"));
             }
         }
     }

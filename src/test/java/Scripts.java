@@ -3,7 +3,8 @@ import java.util.List;
 
 /**
  * Runs scripts, each on a new kernel. A line is one call with the answer that is due, "tick() = 16"; a line
- * that begins with # is a remark. Of each call that is refused it is looked at, too, that it changed nothing.
+ * that begins with # is a remark. Of each call that is refused it is looked at, too, that it changed nothing,
+ * and of the state at the end that it keeps to what the document says of every state.
  */
 final class Scripts {
     private int wrong;
@@ -29,6 +30,7 @@ final class Scripts {
         try {
             checkAnswers(title, calls, answers);
             checkRefusals(title, calls, answers);
+            checkEnd(title, calls);
         } catch (IllegalStateException e) {
             report(title, e.getMessage());
         }
@@ -71,6 +73,15 @@ final class Scripts {
                 report(title, "call " + (i + 1) + ", " + calls.get(i).text + " was refused, but then "
                     + difference + " without it");
             }
+        }
+    }
+
+    private void checkEnd(String title, List<Call> calls) {
+        if (calls.size() >= Picture.MOST_CALLS) {
+            return;
+        }
+        for (String sentence : Invariants.brokenIn(Picture.afterByQuestions(calls))) {
+            report(title, "in the end this does not hold: " + sentence);
         }
     }
 

@@ -25,6 +25,7 @@ public final class ThreadTest {
         runs(s);
         runRefusals(s);
         ticks(s);
+        slices(s);
         currents(s);
         s.end();
     }
@@ -397,6 +398,29 @@ public final class ThreadTest {
             thread(16, 5) = 2
             thread(64, 5) = 2
             """);
+    }
+
+    /** No sentence but those of tick and of becoming READY changes a slice. */
+    private static void slices(Scripts s) {
+        String[] waits = {"send(4, 1, -1, true)", "receive(4, -1, true)", "listen(5, true)"};
+        for (String wait : waits) {
+            String gone = wait.startsWith("listen") ? "delete(5)" : "delete(4)";
+            s.run("slice: it stays until the thread becomes READY, " + wait, TWO
+                + "tick() = 16\n"
+                + wait + " = 10\n"
+                + "thread(16, 5) = 2\n"
+                + "configure(1, 0, -1, 1) = 0\n"
+                + "thread(16, 5) = 2\n"
+                + "tick() = 64\n"
+                + "thread(16, 5) = 2\n"
+                + gone + " = 0\n"
+                + "thread(16, 0) = 1\n"
+                + "thread(16, 5) = 2\n"
+                + "configure(1, 0, -1, 2) = 0\n"
+                + "thread(16, 5) = 2\n"
+                + "run(1, true) = 0\n"
+                + "thread(16, 5) = 3\n");
+        }
     }
 
     private static void currents(Scripts s) {

@@ -159,6 +159,17 @@ public final class TransferTest {
             thread(64, 4) = 1
             slot(0, 9, 1) = 16
             """);
+        s.run("SENDING with all this: a capability that comes to address g later does not count", TWO + """
+            copy(4, 11, 3, 33) = 0
+            send(11, 5, 1, true) = 10
+            delete(11) = 0
+            copy(4, 11, 7, 44) = 0
+            receive(4, 9, true) = 0
+            thread(64, 2) = 5
+            thread(64, 3) = 33
+            thread(64, 4) = 0
+            slot(0, 9, 0) = -1
+            """);
     }
 
     private static void children(Scripts s) {
@@ -244,6 +255,21 @@ public final class TransferTest {
             thread(64, 2) = 1
             thread(64, 4) = 0
             slot(80, 9, 0) = -1
+            """);
+        s.run("c as looked up now: A's table is destroyed", OWN_TABLE + """
+            tick() = 16
+            tick() = 16
+            tick() = 64
+            send(0, 5, 0, true) = 10
+            delete(11) = 0
+            thread(64, 0) = 3
+            thread(64, 6) = -1
+            receive(4, 9, true) = 0
+            thread(16, 2) = 5
+            thread(16, 3) = 9
+            thread(16, 4) = 0
+            slot(0, 9, 0) = -1
+            thread(64, 0) = 2
             """);
     }
 
